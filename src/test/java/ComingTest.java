@@ -69,6 +69,12 @@ public final class ComingTest {
         x.pass(3);
         Check.due("arrives(1) in 99", x.arrives(1), 99);
         Check.due("lure(1) in 99, each carrot is an hour", x.lure(1), 5);
+        DonkeyVerdicts y = Check.laid("w0,1,9;w1,2,9;w2,3,9;w3,4,6;d0,4;b1,3,0;");
+        Check.due("deal(0, -1) in 99", y.deal(0, -1), 99);
+        y.carrots(1, 1);
+        Check.due("deal(0, -1) in 100", y.deal(0, -1), NONE);
+        Check.due("right(0, 0) in 100", y.right(0, 0), 0);
+        Check.due("tell(0, 0, 0) in 100", y.tell(0, 0, 0), NONE);
     }
 
     private static void rightOnes() {

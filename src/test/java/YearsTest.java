@@ -73,6 +73,8 @@ public final class YearsTest {
         Check.due("year(0, 1, 0)", x.year(0, 1, 0), 0);
         Check.due("year(5, 60, 0)", x.year(5, 60, 0), 1);
         Check.due("year(5, 60, 1)", x.year(5, 60, 1), 3);
+        Check.due("year(9999, 60, 0)", x.year(9999, 60, 0), new Model().year(9999, 60, 0));
+        Check.due("year(9999, 60, 1)", x.year(9999, 60, 1), new Model().year(9999, 60, 1));
         Check.due("nothing changed", x.count(4) + x.count(6) + x.count(10), 0);
         DonkeyVerdicts y = Check.laid("d0,0;b3,1,0;");
         // sent with the first draw, which is 1: it stands in the court behind hour 1
