@@ -2,14 +2,34 @@
 final class Check {
     private static int wrong = 0;
     private static int asked = 0;
+    private static String held = "";
 
     private Check() { }
+
+    /** Names the promise and the sentence of the document that the answers from here on hold. */
+    static void holds(int promise, String sentence) {
+        held = "promise " + promise + ", '" + sentence + "': ";
+        Quotes.add(promise, sentence);
+    }
+
+    static void holdsNone() {
+        held = "";
+    }
 
     static void due(String call, long got, long want) {
         asked++;
         if (got != want) {
             wrong++;
-            System.out.println(call + " answered " + got + ", due is " + want);
+            System.out.println(held + call + " answered " + got + ", due is " + want);
+        }
+    }
+
+    /** Two looks at what is to be alike. */
+    static void same(String what, String got, String want) {
+        asked++;
+        if (!got.equals(want)) {
+            wrong++;
+            System.out.println(held + what + "\n  is  " + got + "\n  due " + want);
         }
     }
 
