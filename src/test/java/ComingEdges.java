@@ -288,6 +288,11 @@ final class ComingEdges {
                 }
             }
         }
+        DonkeyVerdicts anew = Check.laid("d0,0;d0,0;d0,0;d0,0;" + "b3,1,0;".repeat(5));
+        deal(anew, 3, 4, 0, 1, 2, 3);
+        Check.rewrite(anew, "d0,0;b3,1,0;");
+        anew.lay();
+        deal(anew, 3, 1, 0);
         DonkeyVerdicts y = Check.laid("w0,1,1;d0,1;d0,1;b3,1,0;b3,1,0;b3,1,0;");
         y.send(0, 0, 0);
         Check.due("deal(5, 0), 0 is not free", y.deal(5, 0), 1);
@@ -422,6 +427,10 @@ final class ComingEdges {
         Check.due("lure(1), 0 eats it", w.lure(1), NONE);
         w.carrots(1, 1);
         Check.due("lure(1), 0 eats the other", w.lure(1), 1);
+        // the last of five, which would linger in 2, were that not behind its door
+        DonkeyVerdicts last = Check.laid("w0,1,1;w1,2,1;d0,1;m2;" + "b0,1,0;".repeat(5));
+        last.send(4, 7, 0);
+        Check.due("lure(4), the last of five", last.lure(4), 1);
         // one that is not there within 99 hours is not read
         DonkeyVerdicts t = Check.laid(FAR + "d0,4;b1,3,0;c1,1;");
         t.send(0, 7, 0);

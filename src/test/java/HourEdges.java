@@ -173,7 +173,9 @@ final class HourEdges {
         goesOver("w0,4,5;w0,1,1;w1,2,1;w2,3,1;w3,4,1;", 1, 1, 3, 1);
         // over 3 and 2 it is as long as over 2 alone: over 2
         goesOver("w0,3,1;w3,2,1;w0,2,2;w2,4,1;", 2, 2, 2, 1);
-        // the longest paths that there can be
+        // of 8 places, with a way to 7 that is as long as the one to 2 (and 4, 5, 6)
+        goesOver("n8;w0,7,3;w0,1,1;w1,4,3;w3,7,3;w4,7,3;w5,7,3;", 1, 1, 1, 3);
+        // long ways
         goesOver("w0,1,9;w1,2,9;w2,3,9;w3,4,9;", 1, 9, 3, 9);
     }
 

@@ -357,6 +357,9 @@ final class YearEdges {
         }
         year("3 for five", y, 15, 1, 5, 22);
         year("8 for five", y, 60, 1, 5, 20);
+        // draw 59533 is none of these: with five beasts and carrots alone none stands, and nothing is read
+        DonkeyVerdicts w = Check.laid("n8;w0,1,1;d0,1;c1,2;c6,9;" + "b0,1,0;".repeat(5));
+        year("none sent", w, 2, 1, 0, 0);
         // draw 56996: by 8 it is 7124, place 4 of 8; by 64 it is 890, no carrots
         DonkeyVerdicts z = Check.laid("n8;w0,4,1;d0,4;b0,1,0;c4,9;");
         z.send(0, 5, 0);
@@ -521,6 +524,9 @@ final class YearEdges {
         counts("new", new DonkeyVerdicts(), 7, 4, 4, 8, 0, 4, 0, 0, 0, 3, 0, 0, 0);
         // of the 2 carrots in 1 one is eaten by 0, 9 are laid in 5
         counts("busy", Busy.made(), 8, 4, 5, 3, 2, 1, 2, 1, 1, 10, 7, 1, 90);
+        DonkeyVerdicts last = Check.laid("n8;w0,7,1;d0,7;" + "b3,1,0;".repeat(5));
+        last.send(4, 7, 0);
+        counts("the last goes to the last", last, 8, 1, 5, 1, 0, 4, 1, 0, 0, 0, 1, 0, 50);
         DonkeyVerdicts x = Check.laid("n1;d0,0;" + "b3,1,0;".repeat(5));
         counts("all free", x, 1, 1, 5, 0, 0, 5, 0, 0, 0, 0, 0, 0, 43);
         for (int b = 0; b < 5; b++) {
