@@ -276,7 +276,7 @@ final class ComingEdges {
     }
 
     private static void dealsOfEachSize() {
-        Check.holds(21, "DEAL of a VERDICT: each DOOR has a BEAST that is FREE SENT to it now, all unlike");
+        Check.holds(21, "DEAL of a VERDICT: each DOOR has a BEAST that is FREE SENT to it now, all unlike, with that VERDICT, 0 first");
         for (int doors = 1; doors <= 4; doors++) {
             for (int beasts = 1; beasts <= 5; beasts++) {
                 DonkeyVerdicts x = Check.laid("w0,1,1;" + "d0,1;".repeat(doors) + "b3,2,0;".repeat(beasts));
@@ -304,7 +304,7 @@ final class ComingEdges {
     }
 
     private static void firstOfSeveralDeals() {
-        Check.holds(21, "that of fewest HOURS till ARRIVING in sum, of several the first (by which BEAST DOOR 0 has, the lowest ahead, then 1, ..)");
+        Check.holds(21, "that of fewest HOURS till ARRIVING in sum, of several the first (by which BEAST DOOR 0 has, the lowest ahead, then 1, ..): how many in sum; which the k-th has; none.");
         // 1 and 2 are alike, and so are all deals of them; 0 is too slow
         DonkeyVerdicts x = Check.laid("w0,1,1;w0,2,1;d0,2;d0,1;b3,3,0;b3,1,0;b3,1,0;b3,2,0;");
         deal(x, 4, 2, 1, 2);
@@ -324,7 +324,7 @@ final class ComingEdges {
     }
 
     private static void dealsReadRight() {
-        Check.holds(21, "such that all of them would be READ as that VERDICT within 99 HOURS");
+        Check.holds(21, "of all ways such that all of them would be READ as that VERDICT within 99 HOURS");
         DonkeyVerdicts x = Check.laid("d1,0;d2,0;b3,1,0;b3,1,0;");
         for (int v = 0; v < 8; v++) {
             Check.due("blind and constable: deal(" + v + ", -1)", x.deal(v, -1), v >= 4 && v % 2 == 0 ? 2 : NONE);
@@ -411,7 +411,7 @@ final class ComingEdges {
         y.send(1, 7, 1);
         Check.due("reading(1), 0 eats it", y.reading(1), 7);
         Check.due("lure(1), by way of 0", y.lure(1), 1);
-        Check.holds(22, "were there a CARROT more now (9 at most)");
+        Check.holds(22, "LURE of one that GOES: the PLACE such that, were there a CARROT more now (9 at most)");
         DonkeyVerdicts z = Check.laid("w0,1,1;w1,2,1;d0,2;b0,1,0;c1,9;c2,9;");
         z.send(0, 7, 0);
         Check.due("lure(0), 9 in each", z.lure(0), NONE);
@@ -472,7 +472,7 @@ final class ComingEdges {
     }
 
     private static void nexts() {
-        Check.holds(23, "the k-th PLACE (0 first) on its way from now on (that to which it is on its way first); none.");
+        Check.holds(23, "NEXT of one that GOES, or GOES HOME: the k-th PLACE (0 first) on its way from now on (that to which it is on its way first); none.");
         DonkeyVerdicts x = Check.laid("n8;w0,7,2;w7,1,1;w1,6,1;w6,2,1;w2,5,1;w5,3,1;w3,4,1;d0,4;b1,1,0;c7,1;");
         x.send(0, 0, 0);
         nexts("sent", x, 7, 1, 6, 2, 5, 3, 4);

@@ -32,7 +32,7 @@ final class CourtEdges {
     }
 
     private static void wrongPlaces() {
-        Check.holds(6, "CARROTS (what = 0), 1 with a MARE (1), how many BEASTS are in it, not on a WAY (2). BAD.");
+        Check.holds(6, "Of a PLACE: CARROTS (what = 0), 1 with a MARE (1), how many BEASTS are in it, not on a WAY (2). BAD.");
         for (int what = 0; what < 3; what++) {
             int w = what;
             bad("place(-1, " + w + ")", x -> x.place(-1, w));
@@ -47,7 +47,7 @@ final class CourtEdges {
         bad("place(7, " + MIN + ")", x -> x.place(7, MIN));
         bad("place(7, " + MAX + ")", x -> x.place(7, MAX));
         bad("place(8, 3)", x -> x.place(8, 3));
-        Check.holds(6, "(PLACES, DOORS, BEASTS: such as there are; VERDICTS 0 to 7)");
+        Check.holds(6, "BAD: a number is none that is told (PLACES, DOORS, BEASTS: such as there are; VERDICTS 0 to 7)");
         for (int n = 1; n <= 8; n++) {
             DonkeyVerdicts x = Check.laid("n" + n + ";d0,0;b0,1,0;");
             Check.due("place(n - 1, 0), n " + n, x.place(n - 1, 0), 0);
@@ -198,8 +198,14 @@ final class CourtEdges {
     }
 
     private static void statesOfABeast() {
-        Check.holds(9, "0 FREE, 1 GOES, 2 STANDS, 3 GOES HOME (3), in which PLACE it is, or set out from (4), to which PLACE it is on a WAY (5; NONE)");
+        Check.holds(9, "Of a BEAST: KIND (what = 0), PACE (1), MOOD (2), 0 FREE, 1 GOES, 2 STANDS, 3 GOES HOME (3), in which PLACE it is, or set out from (4), to which PLACE it is on a WAY (5; NONE)");
         DonkeyVerdicts x = Busy.made();
+        int[] kinds = {0, 1, 2, 3, 3};
+        int[] paces = {1, 2, 1, 3, 1};
+        for (int b = 0; b < 5; b++) {
+            Check.due("beast(" + b + ", 0)", x.beast(b, 0), kinds[b]);
+            Check.due("beast(" + b + ", 1)", x.beast(b, 1), paces[b]);
+        }
         Check.beast("waits", x, 0, 0, 1, 1, NONE, 1, 1);
         Check.beast("on a way", x, 1, 6, 1, 0, 1, 2, 1);
         Check.beast("free", x, 2, 7, 0, 0, NONE, 0, NONE);
@@ -257,7 +263,7 @@ final class CourtEdges {
     }
 
     private static void wrongSigns() {
-        Check.holds(10, "BAD; NO: FREE, GOES HOME.");
+        Check.holds(10, "SIGN by now of one that GOES or STANDS (what = 0), CARROTS that it has EATEN (1), how often it LINGERED (2). BAD; NO: FREE, GOES HOME.");
         for (int what = 0; what < 3; what++) {
             int w = what;
             bad("sign(-1, " + w + ")", x -> x.sign(-1, w));
@@ -292,7 +298,7 @@ final class CourtEdges {
     }
 
     private static void signsByMood() {
-        Check.holds(10, "of a MULE 7 less that, if its MOOD was uneven as it was SENT; of a FOAL 1 more (7 at most), if its MOOD was 5 or more then");
+        Check.holds(10, "How one STANDS, its SIGN: the VERDICT; of a MULE 7 less that, if its MOOD was uneven as it was SENT; of a FOAL 1 more (7 at most), if its MOOD was 5 or more then");
         for (int mood = 0; mood < 10; mood++) {
             signs("donkey", 0, mood, 0, 1, 2, 3, 4, 5, 6, 7);
             signs("old", 3, mood, 0, 1, 2, 3, 4, 5, 6, 7);
@@ -323,7 +329,7 @@ final class CourtEdges {
     }
 
     private static void signsByCarrots() {
-        Check.holds(10, "1 less for each CARROT that it has EATEN on its way");
+        Check.holds(10, "then 1 less for each CARROT that it has EATEN on its way");
         String text = "n8;w0,1,1;w1,2,1;w2,3,1;w3,4,1;w4,5,1;w5,6,1;w6,7,1;d0,7;"
             + "b0,1,0;b1,1,1;b2,1,5;b3,1,0;b1,1,0;c1,4;c2,4;c3,4;c4,4;c5,4;c6,4;c7,4;";
         DonkeyVerdicts x = Check.laid(text);

@@ -1,8 +1,11 @@
+import java.io.IOException;
 import java.lang.reflect.Constructor;
 import java.lang.reflect.Field;
 import java.lang.reflect.Member;
 import java.lang.reflect.Method;
 import java.lang.reflect.Modifier;
+import java.nio.file.Files;
+import java.nio.file.Path;
 import java.util.Arrays;
 import java.util.Random;
 import java.util.Set;
@@ -15,8 +18,9 @@ public final class FaceTest {
         "pass 1", "home 1", "carrots 2", "undo 0", "arrives 1", "reading 1", "right 2", "soonest 2", "tell 3",
         "deal 2", "lure 1", "next 2", "meet 2", "told 2", "who 3", "balks 4", "year 3", "keep 0", "back 0", "count 1"};
 
-    public static void main(String[] args) throws ReflectiveOperationException {
+    public static void main(String[] args) throws ReflectiveOperationException, IOException {
         face();
+        faceOfTheDocument();
         nested();
         anyNumbers();
         Check.finish();
@@ -31,6 +35,9 @@ public final class FaceTest {
             if (Modifier.isPublic(m.getModifiers())) {
                 seen.add(m.getName() + " " + m.getParameterCount());
                 Check.due(m + " answers an int", m.getReturnType() == int.class ? 1 : 0, 1);
+                for (Class<?> number : m.getParameterTypes()) {
+                    Check.due(m + " takes ints", number == int.class ? 1 : 0, 1);
+                }
             } else {
                 onlyPrivate(m);
             }
@@ -45,6 +52,23 @@ public final class FaceTest {
         Constructor<?>[] all = c.getDeclaredConstructors();
         Check.due("constructors", all.length, 1);
         Check.due("its parameters", all[0].getParameterCount(), 0);
+    }
+
+    /** The document's face, too, has these calls, and the class has its heads ahead of them. */
+    private static void faceOfTheDocument() throws IOException {
+        if (!Document.isThere()) {
+            return;
+        }
+        Check.same("the document's calls", Document.calls().toString(), Arrays.toString(FACE));
+        String source = Files.readString(Path.of("src", "main", "java", "DonkeyVerdicts.java"));
+        int at = 0;
+        for (String part : Document.headsAndCalls()) {
+            String line = part.startsWith("----") ? "\n    // " + part + "\n" : "\n    public int " + part + "(";
+            int found = source.indexOf(line);
+            Check.due(part + " is in its place", found > at ? 1 : 0, 1);
+            at = found;
+        }
+        Check.due("heads and calls", Document.headsAndCalls().size(), FACE.length + 5);
     }
 
     private static void onlyPrivate(Member m) {

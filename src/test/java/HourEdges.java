@@ -85,11 +85,13 @@ final class HourEdges {
     }
 
     private static void moods() {
-        Check.holds(11, "its MOOD is 1 more then (behind 9 comes 0)");
+        Check.holds(11, "it GOES; its MOOD is 1 more then (behind 9 comes 0)");
         for (int mood = 0; mood < 10; mood++) {
             DonkeyVerdicts x = Check.laid("d0,0;b0,1," + mood + ";b0,1," + mood + ";");
             Check.due("send of mood " + mood, x.send(0, 0, 0), mood == 9 ? 0 : mood + 1);
             Check.due("beast(0, 2), sent", x.beast(0, 2), mood == 9 ? 0 : mood + 1);
+            Check.due("beast(0, 3), sent", x.beast(0, 3), 1);
+            Check.due("beast(1, 3), not sent", x.beast(1, 3), 0);
             Check.due("beast(1, 2), not sent", x.beast(1, 2), mood);
             x.send(0, 0, 0);
             Check.due("beast(0, 2), refused", x.beast(0, 2), mood == 9 ? 0 : mood + 1);
@@ -164,7 +166,7 @@ final class HourEdges {
     }
 
     private static void paths() {
-        Check.holds(12, "of ways along WAYS that of the least L in sum, of several that whose next PLACE is lowest");
+        Check.holds(12, "PATH from one PLACE to another one: of ways along WAYS that of the least L in sum, of several that whose next PLACE is lowest.");
         // 4 directly, 4 over 1, 4 over 2 and 3: over 1; home directly
         goesOver("w0,4,4;w0,1,3;w1,4,1;w0,2,1;w2,3,1;w3,4,2;", 1, 3, 0, 4);
         // 4 directly, 5 over 1: directly
@@ -229,7 +231,7 @@ final class HourEdges {
     }
 
     private static void whoEatsAndLingers() {
-        Check.holds(12, "if there is a CARROT, and it is not OLD, it EATS one (there is one less), and WAITS for 1 HOUR; if there is a MARE, and it is a DONKEY or a FOAL, it LINGERS, and WAITS for 2 HOURS (more)");
+        Check.holds(12, "There, at once, if there is a CARROT, and it is not OLD, it EATS one (there is one less), and WAITS for 1 HOUR; if there is a MARE, and it is a DONKEY or a FOAL, it LINGERS, and WAITS for 2 HOURS (more)");
         // by kind: hours of waiting with a carrot, with a mare, with both
         int[][] waits = {{1, 2, 3}, {1, 0, 1}, {1, 2, 3}, {0, 0, 0}};
         String[] there = {"c1,1;", "m1;", "c1,1;m1;"};

@@ -10,6 +10,7 @@ final class TextEdges {
 
     static void run() {
         newObject();
+        theLastCall();
         letters();
         fullText();
         wiping();
@@ -71,8 +72,31 @@ final class TextEdges {
         Check.same("one more new object", Look.now(new DonkeyVerdicts()), Look.now(laid));
     }
 
+    private static void theLastCall() {
+        Check.holds(1, "An object is used for at most 512 calls after it has been made; what later calls answer is free.");
+        DonkeyVerdicts hours = new DonkeyVerdicts();
+        for (int call = 1; call <= 511; call++) {
+            Check.due("pass(24), call " + call, hours.pass(24), 24 * call);
+        }
+        Check.due("count(4), call 512", hours.count(4), 24 * 511);
+        DonkeyVerdicts letters = new DonkeyVerdicts();
+        for (int call = 1; call <= 511; call++) {
+            Check.due("write, call " + call, letters.write('m'), call <= 200 ? call : FULL);
+        }
+        Check.due("wipe(), call 512", letters.wipe(), 200);
+        DonkeyVerdicts carrots = new DonkeyVerdicts();
+        for (int call = 1; call <= 504; call++) {
+            Check.due("carrots, call " + call, carrots.carrots(6, call % 10), call == 1 ? 0 : (call - 1) % 10);
+        }
+        for (int left = 7; left >= 1; left--) {
+            Check.due("undo(), " + left + " left", carrots.undo(), left);
+        }
+        // the last 7 of 504 are undone: it is as behind call 497
+        Check.due("place(6, 0), call 512", carrots.place(6, 0), 7);
+    }
+
     private static void letters() {
-        Check.holds(2, "A letter (32 to 126, as in ASCII) comes behind THE TEXT: how long it is.");
+        Check.holds(2, "A letter (32 to 126, as in ASCII) comes behind THE TEXT: how long it is. BAD; FULL.");
         DonkeyVerdicts x = new DonkeyVerdicts();
         for (int letter = 32; letter <= 126; letter++) {
             Check.due("write(" + letter + ")", x.write(letter), letter - 31);
@@ -370,6 +394,10 @@ final class TextEdges {
         fault("d0,0;b0,1,0;m", 12);
         fault("m0;n5;x", 3);
         fault("m5;n8;", 0);
+        Check.holds(4, "FAULT. NONE.");
+        fault("", NONE);
+        fault("m0;", NONE);
+        fault("n8;m7;", NONE);
         Busy.unchanged("fault()", DonkeyVerdicts::fault);
         DonkeyVerdicts x = Check.written("m0;m5;");
         Check.due("fault()", x.fault(), 3);
@@ -414,7 +442,7 @@ final class TextEdges {
     }
 
     private static void laidAnew() {
-        Check.holds(5, "LAID: how many BEASTS; hour 0, nothing UNDONE, KEPT; THE TEXT stays.");
+        Check.holds(5, "LAID: how many BEASTS; hour 0, nothing UNDONE, KEPT; THE TEXT stays. NO.");
         for (int beasts = 1; beasts <= 5; beasts++) {
             Check.due("lay() of " + beasts, Check.written("d0,0;" + times(beasts, "b0,1,0;")).lay(), beasts);
         }

@@ -123,7 +123,7 @@ final class YearEdges {
     }
 
     private static void who() {
-        Check.holds(26, "BEASTS that are FREE and VERDICTS such that, SENT so now alone, it would be READ as r: how many of both; the first (by the BEAST, then the VERDICT), as 10 times the BEAST and the VERDICT; none.");
+        Check.holds(26, "WHO for a DOOR, r (0 to 7): BEASTS that are FREE and VERDICTS such that, SENT so now alone, it would be READ as r: how many of both; the first (by the BEAST, then the VERDICT), as 10 times the BEAST and the VERDICT; none.");
         DonkeyVerdicts x = Check.laid("d0,0;d1,0;d2,0;d3,0;" + "b3,1,0;".repeat(5));
         int[][] many = {{5, 5, 5, 5, 5, 5, 5, 5}, {10, 0, 10, 0, 10, 0, 10, 0}, {0, 0, 0, 0, 25, 5, 5, 5}, {10, 10, 10, 10, 0, 0, 0, 0}};
         int[][] first = {{0, 1, 2, 3, 4, 5, 6, 7}, {0, NONE, 2, NONE, 4, NONE, 6, NONE},
@@ -207,7 +207,7 @@ final class YearEdges {
     }
 
     private static void balksByTenths() {
-        Check.holds(27, "in each of n (0 to 8) HOURS a BEAST stays as it is by x (0 to 10) of ten, all others go on");
+        Check.holds(27, "BALKS: in each of n (0 to 8) HOURS a BEAST stays as it is by x (0 to 10) of ten, all others go on");
         DonkeyVerdicts x = sent("b3,1,0;");
         // in lowest terms: 1 less x of ten
         int[] above = {1, 9, 4, 7, 3, 1, 2, 3, 1, 1, 0};
@@ -293,7 +293,7 @@ final class YearEdges {
     }
 
     private static void yearByOneDraw() {
-        Check.holds(28, "if DRAW modulo 8 is 0 to 2, it is SENT with VERDICT (DRAW by 64, cut) modulo 8 to DOOR (DRAW by 512, cut) modulo as many, if 3, it is called home, if 4, CARROTS of PLACE (DRAW by 8, cut) modulo as many are (DRAW by 64, cut) modulo 10; each if it can be");
+        Check.holds(28, "ahead of the k-th (0 first), with BEAST (DRAW by 8, cut) modulo as many as there are, if DRAW modulo 8 is 0 to 2, it is SENT with VERDICT (DRAW by 64, cut) modulo 8 to DOOR (DRAW by 512, cut) modulo as many, if 3, it is called home, if 4, CARROTS of PLACE (DRAW by 8, cut) modulo as many are (DRAW by 64, cut) modulo 10; each if it can be");
         DonkeyVerdicts free = Check.laid("d0,0;b3,1,0;");
         // draws 56728, 58977, 5042: 0, 1 and 2 modulo 8, verdicts 6, 1, 6
         year("sent", free, 5, 1, 1, 6);
