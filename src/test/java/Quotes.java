@@ -30,7 +30,7 @@ final class Quotes {
             Check.due("promise " + promise + " is named", NAMED.containsKey(promise) ? 1 : 0, 1);
         }
         Check.same("sentences that the document has not", UNFOUND.toString(), "");
-        Check.same("words of the document that no test holds", unheld(), "");
+        Check.same("words of the document that no test names", unheld(), "");
     }
 
     private static String unheld() {
